@@ -21,8 +21,6 @@ public final class HeaveSongs {
     private final ArrayList<Task> tasks;
     private int pauseBetween;
     private final TaskSearch taskSearch;
-    // The plan is dear to find and is asked for task by task: it is kept until something changes.
-    private boolean planKnown;
     private final ArrayList<Word> words;
     private final LineMaker lineMaker;
     private final Marks marks;
@@ -68,7 +66,7 @@ public final class HeaveSongs {
         Song made = new Song();
         made.verse.take(row);
         songs.add(made);
-        planKnown = false;
+        taskSearch.planKnown = false;
         return songs.size() - 1;
     }
 
@@ -81,7 +79,7 @@ public final class HeaveSongs {
             return NO;
         }
         sung.refrain.take(row);
-        planKnown = false;
+        taskSearch.planKnown = false;
         return sung.refrain.size;
     }
 
@@ -101,7 +99,7 @@ public final class HeaveSongs {
         if (!hands.add(strength, tires, rests, breaths)) {
             return FULL;
         }
-        planKnown = false;
+        taskSearch.planKnown = false;
         return hands.size - 1;
     }
 
@@ -111,7 +109,7 @@ public final class HeaveSongs {
         }
         int was = hands.late[hand];
         hands.late[hand] = k;
-        planKnown = false;
+        taskSearch.planKnown = false;
         return was;
     }
 
@@ -121,7 +119,7 @@ public final class HeaveSongs {
         }
         int was = hands.crew;
         hands.crew = set;
-        planKnown = false;
+        taskSearch.planKnown = false;
         return was;
     }
 
@@ -131,7 +129,7 @@ public final class HeaveSongs {
         }
         int was = hands.floor;
         hands.floor = v;
-        planKnown = false;
+        taskSearch.planKnown = false;
         return was;
     }
 
@@ -144,7 +142,7 @@ public final class HeaveSongs {
             return BAD;
         }
         hands.restFor(n, hands.now);
-        planKnown = false;
+        taskSearch.planKnown = false;
         return hands.howManyAtStrength();
     }
 
@@ -158,7 +156,7 @@ public final class HeaveSongs {
         latest.beginAsTold(hands);
         boolean done = latest.go(hands, sung, new Task(goal, load, slip), MOST_BEATS);
         copy(latest.now, hands.now);
-        planKnown = false;
+        taskSearch.planKnown = false;
         return done ? latest.beats : -10 - latest.beats;
     }
 
@@ -180,7 +178,7 @@ public final class HeaveSongs {
             return FULL;
         }
         tasks.add(new Task(goal, load, slip));
-        planKnown = false;
+        taskSearch.planKnown = false;
         return tasks.size() - 1;
     }
 
@@ -190,7 +188,7 @@ public final class HeaveSongs {
         }
         int was = pauseBetween;
         pauseBetween = n;
-        planKnown = false;
+        taskSearch.planKnown = false;
         return was;
     }
 
@@ -198,7 +196,7 @@ public final class HeaveSongs {
         if (tasks.isEmpty() || songs.isEmpty()) {
             return NO;
         }
-        findPlanIfChanged();
+        taskSearch.findPlan(songs, hands, tasks, pauseBetween);
         return taskSearch.planBeats == NOT_FOUND ? NONE : taskSearch.planBeats;
     }
 
@@ -209,7 +207,7 @@ public final class HeaveSongs {
         if (songs.isEmpty()) {
             return NO;
         }
-        findPlanIfChanged();
+        taskSearch.findPlan(songs, hands, tasks, pauseBetween);
         return taskSearch.planBeats == NOT_FOUND ? NONE : taskSearch.planSongs[i];
     }
 
@@ -387,6 +385,14 @@ public final class HeaveSongs {
         return v >= least && v <= most;
     }
 
+    private static boolean isSilent(int beat) {
+        return beat != WORD && beat != PULL;
+    }
+
+    private static boolean isIn(int set, int hand) {
+        return (set >> hand & 1) == 1;
+    }
+
     private static boolean isWeight(int load, int slip) {
         return within(load, 0, MOST_LOAD) && within(slip, 0, MOST_SLIP);
     }
@@ -411,13 +417,6 @@ public final class HeaveSongs {
             return BAD;
         }
         return t < latest.beats && t < byBeat.length ? byBeat[t] : NONE;
-    }
-
-    private void findPlanIfChanged() {
-        if (!planKnown) {
-            taskSearch.findPlan(songs, hands, tasks, pauseBetween);
-            planKnown = true;
-        }
     }
 
     /** Beats in a row: THE ROW, a VERSE or a REFRAIN. */
@@ -611,7 +610,7 @@ public final class HeaveSongs {
                 crewByLate[k] = 0;
             }
             for (int h = 0; h < size; h++) {
-                if (isAtRope(h) && within(late[h], 0, MOST_LATE)) {
+                if (isIn(crew, h) && within(late[h], 0, MOST_LATE)) {
                     crewByLate[late[h]] |= 1 << h;
                 }
             }
@@ -632,7 +631,7 @@ public final class HeaveSongs {
             int together = 0;
             for (int h = 0; h < hands.size; h++) {
                 int was = now[h];
-                if ((pullers >> h & 1) == 1) {
+                if (isIn(pullers, h)) {
                     together += was;
                     now[h] = Math.max(0, was - hands.tires[h]);
                 } else if (was < hands.strength[h]) {
@@ -643,14 +642,10 @@ public final class HeaveSongs {
         }
 
         private int comesBack(Hands hands, int h, int beat) {
-            if (beat == REST || !isAtRope(h)) {
+            if (beat == REST || !isIn(crew, h)) {
                 return hands.rests[h];
             }
             return beat == BREATH ? hands.breaths[h] : 0;
-        }
-
-        private boolean isAtRope(int h) {
-            return (crew >> h & 1) == 1;
         }
 
         private boolean isBelowFloor(int size) {
@@ -658,7 +653,7 @@ public final class HeaveSongs {
                 return false;
             }
             for (int h = 0; h < size; h++) {
-                if (isAtRope(h) && now[h] < floor) {
+                if (isIn(crew, h) && now[h] < floor) {
                     return true;
                 }
             }
@@ -692,15 +687,21 @@ public final class HeaveSongs {
         final int[] tried = new int[MOST_TASKS];
         final int[] planSongs = new int[MOST_TASKS];
         int planBeats = NOT_FOUND;
+        // The plan is dear to find and is asked for task by task: it is kept until something changes.
+        boolean planKnown;
         int crewSet;
         int crewBeats = NOT_FOUND;
         int crewLeastNow;
 
         void findPlan(ArrayList<Song> songs, Hands hands, ArrayList<Task> tasks, int between) {
+            if (planKnown) {
+                return;
+            }
             planBeats = NOT_FOUND;
             trial.beginAsTold(hands);
             copy(hands.now, nowAhead[0]);
             tryFrom(songs, hands, tasks, between, 0, 0);
+            planKnown = true;
         }
 
         /** Tries each song for the task at that depth, and all plans that begin so. */
@@ -774,7 +775,7 @@ public final class HeaveSongs {
             int wrong = 0;
             for (int k = 0; k < sounds; k++) {
                 int beat = verse.beats[start + k];
-                if (beat != WORD && beat != PULL) {
+                if (isSilent(beat)) {
                     return NONE;
                 }
                 if (isStrong(k) != (beat == PULL)) {
@@ -795,6 +796,7 @@ public final class HeaveSongs {
         final int[] wrongFrom = new int[MOST_VERSE + 1];
         final int[] line = new int[MOST_VERSE];
         int size;
+        long linesAhead;
 
         long howMany(Row verse, ArrayList<Word> words) {
             waysFrom[verse.size] = 1;
@@ -848,66 +850,62 @@ public final class HeaveSongs {
         /** The i-th line; it is left empty if there are not so many. */
         void makeLine(Row verse, ArrayList<Word> words, long i) {
             size = 0;
-            if (i < 0 || i >= howMany(verse, words)) {
-                return;
-            }
-            long ahead = i;
-            int next = 0;
-            for (int start = 0; start < verse.size; start++) {
-                if (start < next || isSilent(verse.beats[start])) {
-                    continue;
-                }
-                for (int w = 0; w < words.size(); w++) {
-                    Word word = words.get(w);
-                    if (word.wrongIfSungFrom(verse, start) != 0) {
-                        continue;
-                    }
-                    long ways = waysFrom[start + word.sounds];
-                    if (ahead < ways) {
-                        append(w);
-                        next = start + word.sounds;
-                        break;
-                    }
-                    ahead -= ways;
-                }
+            if (i >= 0 && i < howMany(verse, words)) {
+                linesAhead = i;
+                lay(verse, words, false);
             }
         }
 
         /** The first line with the fewest wrong sounds; it is left empty if there is no line. */
         void makeNearLine(Row verse, ArrayList<Word> words) {
             size = 0;
-            if (fewestWrong(verse, words) == NONE) {
-                return;
+            if (fewestWrong(verse, words) != NONE) {
+                lay(verse, words, true);
             }
+        }
+
+        private void lay(Row verse, ArrayList<Word> words, boolean isNear) {
             int next = 0;
-            for (int start = 0; start < verse.size; start++) {
+            for (int start = 0; start < verse.size && size < line.length; start++) {
                 if (start < next || isSilent(verse.beats[start])) {
                     continue;
                 }
-                for (int w = 0; w < words.size(); w++) {
-                    Word word = words.get(w);
-                    if (wrongWith(word, verse, start) == wrongFrom[start]) {
-                        append(w);
-                        next = start + word.sounds;
-                        break;
+                int w = isNear ? nearWord(verse, words, start) : countedWord(verse, words, start);
+                if (w == NONE) {
+                    return;
+                }
+                line[size] = w;
+                size++;
+                next = start + words.get(w).sounds;
+            }
+        }
+
+        /** The word with which the lines begin among which the one looked for is. */
+        private int countedWord(Row verse, ArrayList<Word> words, int start) {
+            for (int w = 0; w < words.size(); w++) {
+                Word word = words.get(w);
+                if (word.wrongIfSungFrom(verse, start) == 0) {
+                    long ways = waysFrom[start + word.sounds];
+                    if (linesAhead < ways) {
+                        return w;
                     }
+                    linesAhead -= ways;
                 }
             }
+            return NONE;
+        }
+
+        private int nearWord(Row verse, ArrayList<Word> words, int start) {
+            for (int w = 0; w < words.size(); w++) {
+                if (wrongWith(words.get(w), verse, start) == wrongFrom[start]) {
+                    return w;
+                }
+            }
+            return NONE;
         }
 
         int wordAt(int k) {
             return within(k, 0, size - 1) ? line[k] : NONE;
-        }
-
-        private void append(int w) {
-            if (size < line.length) {
-                line[size] = w;
-                size++;
-            }
-        }
-
-        private static boolean isSilent(int beat) {
-            return beat != WORD && beat != PULL;
         }
     }
 
@@ -970,7 +968,7 @@ public final class HeaveSongs {
             trial.beginFresh(hands);
             sum = sumOfTrial(hands, song, pull, marks);
             for (int a = 0; a < hands.size; a++) {
-                for (int k = 1; k <= MOST_LATE && isInCrew(hands, a); k++) {
+                for (int k = 1; k <= MOST_LATE && isIn(hands.crew, a); k++) {
                     trial.beginFresh(hands);
                     trial.late[a] = k;
                     int tried = sumOfTrial(hands, song, pull, marks);
@@ -987,7 +985,7 @@ public final class HeaveSongs {
             sum = NOT_FOUND;
             for (int a = 0; a < hands.size; a++) {
                 for (int b = a + 1; b < hands.size; b++) {
-                    if (isInCrew(hands, a) && isInCrew(hands, b)) {
+                    if (isIn(hands.crew, a) && isIn(hands.crew, b)) {
                         tryPair(hands, song, pull, marks, a, b);
                     }
                 }
@@ -1016,16 +1014,12 @@ public final class HeaveSongs {
             trial.go(hands, song, pull, marks.span());
             return marks.differenceTo(trial.won);
         }
-
-        private static boolean isInCrew(Hands hands, int h) {
-            return (hands.crew >> h & 1) == 1;
-        }
     }
 
     private static final class Kin {
         final int[] cost = new int[MOST_VERSE + 1];
         final int[] hungTo = new int[MOST_SONGS];
-        final boolean[] isIn = new boolean[MOST_SONGS];
+        final boolean[] isHung = new boolean[MOST_SONGS];
 
         int distance(Song one, Song other) {
             return changes(one.verse, other.verse) + changes(one.refrain, other.refrain);
@@ -1051,7 +1045,7 @@ public final class HeaveSongs {
         /** Hangs all songs, and answers how far they are from what they hang to, together. */
         int growTree(ArrayList<Song> songs) {
             for (int s = 0; s < MOST_SONGS; s++) {
-                isIn[s] = s == 0;
+                isHung[s] = s == 0;
                 hungTo[s] = NONE;
             }
             int sum = 0;
@@ -1067,7 +1061,7 @@ public final class HeaveSongs {
             int to = NONE;
             for (int s = 0; s < songs.size() && s < MOST_SONGS; s++) {
                 for (int r = 0; r < songs.size() && r < MOST_SONGS; r++) {
-                    if (!isIn[s] && isIn[r]) {
+                    if (!isHung[s] && isHung[r]) {
                         int far = distance(songs.get(s), songs.get(r));
                         if (far < least) {
                             least = far;
@@ -1077,7 +1071,7 @@ public final class HeaveSongs {
                     }
                 }
             }
-            isIn[next] = true;
+            isHung[next] = true;
             hungTo[next] = to;
             return least;
         }

@@ -92,6 +92,15 @@ public final class HaulsTest {
         CHECK.due("below FLOOR ahead of a beat that wins", y.haul(0, 1, 0, 0), -11);
         CHECK.due("an empty crew", y.crew(0), 1);
         CHECK.due("has nobody below FLOOR", y.haul(0, 1, 0, 0), -310);
+        y.crew(1);
+        y.haul(0, 3000, 0, 0);
+        CHECK.due("tired", y.now(0), 70);
+        y.floor(0);
+        y.haul(0, 3000, 0, 0);
+        CHECK.due("none is below a FLOOR of 0", y.count(8), 300);
+        CHECK.due("tired out", y.now(0), 0);
+        y.floor(1);
+        CHECK.due("0 is below 1", y.haul(0, 3000, 0, 0), -11);
         HeaveSongs z = new HeaveSongs();
         z.hand(20, 10, 0, 30);
         Check.song(z, "23");

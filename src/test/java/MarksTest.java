@@ -8,6 +8,7 @@ public final class MarksTest {
         promise27Wipe();
         promise28Refusals();
         promise28Who();
+        promise28TenHands();
         promise28LikeOnes();
         promise28NothingElseCounts();
         promise29Refusals();
@@ -93,6 +94,21 @@ public final class MarksTest {
         // Hand 2 by 1: 20 less, then 30: 2, 5, 4, 3, 5, 8.
         marks(x, 0, 2, 1, 5, 5, 8);
         who(x, 10, 1, 2, 1, 0);
+    }
+
+    private static void promise28TenHands() {
+        HeaveSongs x = new HeaveSongs();
+        for (int h = 0; h < 10; h++) {
+            x.hand(10 * h + 10, 0, 0, 0);
+        }
+        Check.song(x, "21111");
+        // All win 55; hand 9 (100) by 3: 45 behind beats 0 to 2, 55 behind 3, 100 behind 5, 110 behind 8.
+        marks(x, 2, 45, 3, 55, 5, 100, 7, 100, 8, 110);
+        who(x, 0, 0, 9, 3, 0);
+        x.wipe();
+        // Hands 8 (90) and 9 by 3: 36, then 55, then 91.
+        marks(x, 0, 36, 2, 36, 3, 55, 5, 91);
+        two(x, 8, 9, 3, 3, 0);
     }
 
     private static void promise28LikeOnes() {

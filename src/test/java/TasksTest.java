@@ -10,6 +10,7 @@ public final class TasksTest {
         promises18And19Plan();
         promises18And19FloorTurnsTheFirstChoice();
         promises18And19FollowChanges();
+        promises18And19FourTasks();
         promise20Refusals();
         promise20Best();
         promise20FromNowWithLateAndFloor();
@@ -136,6 +137,43 @@ public final class TasksTest {
         CHECK.due("behind pause", x.plan(), 12);
         x.floor(71);
         CHECK.due("behind floor", x.plan(), NONE);
+    }
+
+    private static void promises18And19FourTasks() {
+        HeaveSongs x = new HeaveSongs();
+        for (int h = 0; h < 10; h++) {
+            x.hand(100, h % 2, 0, 0);
+        }
+        String[] verses = {"12", "112", "1112", "111112", "0002", "3332"};
+        for (String verse : verses) {
+            Check.song(x, verse);
+        }
+        Check.beats(x, "222");
+        x.refrain(2);
+        // All together pull 1000: against 999 they win nothing.
+        x.task(50, 0, 0);
+        x.task(150, 0, 0);
+        x.task(300, 0, 0);
+        x.task(1, 999, 0);
+        CHECK.due("planAt ahead of plan", x.planAt(3), NONE);
+        CHECK.due("the last one fails", x.plan(), NONE);
+        HeaveSongs y = new HeaveSongs();
+        y.hand(100, 0, 0, 0);
+        Check.song(y, "12");
+        Check.song(y, "1112", "222");
+        y.between(50);
+        y.task(10, 0, 0);
+        y.task(40, 0, 0);
+        y.task(50, 0, 0);
+        y.task(20, 0, 0);
+        // By pulls: one behind 2 or 4 beats, four behind 8 or 7, five behind 10 or 11, two behind 4 or 5.
+        int[] due = {0, 1, 0, 0};
+        for (int i = 0; i < 4; i++) {
+            CHECK.due("planAt(" + i + ")", y.planAt(i), due[i]);
+        }
+        CHECK.due("four tasks and three pauses", y.plan(), 2 + 7 + 10 + 4 + 150);
+        y.crew(0);
+        CHECK.due("planAt follows, too", y.planAt(0), NONE);
     }
 
     private static void promise20Refusals() {

@@ -184,6 +184,21 @@ public final class WordsTest {
         // weak, then strong weak strong: none wrong.
         near(y, 0, 3, 5);
         Check.song(y, "2012");
+        // What was found for one song must not show in another: a long one, a short one, the long one.
+        HeaveSongs z = new HeaveSongs();
+        Check.song(z, "222222222222222222222222");
+        Check.song(z, "1203");
+        Check.song(z, "20");
+        z.word(1, 0);
+        z.word(3, 7);
+        CHECK.due("24 beats, strong by threes", z.near(0), 0);
+        CHECK.due("its last word", z.nearAt(0, 7), 1);
+        CHECK.due("its end", z.nearAt(0, 8), NONE);
+        nearOf(z, 1, 1, 0, 0);
+        nearOf(z, 2, 1, 0);
+        CHECK.due("24 beats again", z.near(0), 0);
+        z.word(5, 0);
+        CHECK.due("24 beats, as ever", z.near(0), 0);
         // weak is the only one for the first PULL; then strong strong comes ahead of weak weak.
         nearOf(y, 1, 2, 3, 1);
     }
