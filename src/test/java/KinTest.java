@@ -5,6 +5,7 @@ public final class KinTest {
 
     public static void main(String[] args) {
         promise30Apart();
+        promise30Ends();
         promises31And32Tree();
         promises31And32LikeOnes();
         promise33Count();
@@ -38,6 +39,16 @@ public final class KinTest {
         CHECK.due("apart(0, -1)", x.apart(0, -1), BAD);
         CHECK.due("apart(6, 0)", x.apart(6, 0), BAD);
         CHECK.due("apart(0, 6)", x.apart(0, 6), BAD);
+    }
+
+    private static void promise30Ends() {
+        HeaveSongs x = new HeaveSongs();
+        Check.song(x, "13", "0");
+        Check.song(x, "1", "021");
+        Check.song(x, "213", "10");
+        CHECK.due("taken out at the end, put in at the end", x.apart(0, 1), 1 + 2);
+        CHECK.due("put in ahead", x.apart(0, 2), 1 + 1);
+        CHECK.due("at both ends", x.apart(1, 2), 2 + 3);
     }
 
     private static void promises31And32Tree() {
