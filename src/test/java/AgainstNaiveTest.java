@@ -3,8 +3,9 @@ import java.util.Random;
 /** Runs of drawn calls (always the same ones) on the class and on the naive one: all answers must be alike. */
 public final class AgainstNaiveTest {
     private static final Check CHECK = new Check("AgainstNaiveTest");
-    private static final int RUNS = 120;
-    private static final int CALLS = 400;
+    private static final int RUNS = 200;
+    // An object is used for at most 512 calls; the dearest round of a run makes fewer than 30.
+    private static final int MOST_CALLS = 480;
 
     private final Random random;
     private final HeaveSongs x = new HeaveSongs();
@@ -21,6 +22,7 @@ public final class AgainstNaiveTest {
     private final int maxTasks;
     private final int dear;
     private final String beats;
+    private int calls;
 
     private AgainstNaiveTest(long seed) {
         random = new Random(seed);
@@ -45,7 +47,7 @@ public final class AgainstNaiveTest {
     }
 
     private void run(int run) {
-        for (int call = 0; call < CALLS; call++) {
+        for (int call = 0; calls <= MOST_CALLS; call++) {
             int kind = random.nextInt(100);
             String where = "run " + run + ", call " + call + ": ";
             if (kind < 40) {
@@ -64,6 +66,7 @@ public final class AgainstNaiveTest {
     }
 
     private void due(String where, String call, long got, long want) {
+        calls++;
         CHECK.due(where + call, got, want);
     }
 

@@ -118,7 +118,8 @@ public final class SongsAndHandsTest {
         CHECK.due("beatAt without songs", x.beatAt(0, 0), BAD);
         Check.song(x, "120", "31");
         String round = "12031";
-        for (int t = 0; t <= 1000; t++) {
+        // Not each of the 1001: an object has 512 calls.
+        for (int t = 0; t <= 1000; t += t < 40 || t >= 990 ? 1 : 19) {
             CHECK.due("beatAt(0, " + t + ")", x.beatAt(0, t), round.charAt(t % 5) - '0');
         }
         CHECK.due("beatAt(0, -1)", x.beatAt(0, -1), BAD);
