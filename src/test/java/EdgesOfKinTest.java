@@ -180,6 +180,13 @@ public final class EdgesOfKinTest {
         for (int s = 0; s < 6; s++) {
             CHECK.due("hangs(" + s + ")", x.hangs(s), due[s]);
         }
+        CHECK.due("asked again", x.tree(), 5);
+        x.beat(2);
+        x.refrain(5);
+        // 5 is one more from all: 4 is two from 0, as 5 is; 4 comes first, and 5 hangs to 0.
+        CHECK.due("behind a refrain of the sixth", x.tree(), 2 + 1 + 1 + 1 + 2);
+        CHECK.due("hangs(4) then", x.hangs(4), 0);
+        CHECK.due("hangs(5) then", x.hangs(5), 0);
     }
 
     private static void treeOfTheFarthest() {

@@ -6,6 +6,7 @@ public final class EdgesOfSongsTest {
     public static void main(String[] args) {
         newObjectHasNothing();
         newObjectNumbersFromTheFirst();
+        the512thCallIsAnsweredAsAny();
         beatsAre0To3();
         rowHasAtMost24();
         fullRowCanBeUsedOrEmptied();
@@ -57,6 +58,21 @@ public final class EdgesOfSongsTest {
         CHECK.due("the first task", x.task(1, 0, 0), 0);
         CHECK.due("the first word", x.word(1, 0), 0);
         CHECK.due("the first mark", x.mark(0, 0), 1);
+    }
+
+    /** "An object is used for at most 512 calls after it has been made". */
+    private static void the512thCallIsAnsweredAsAny() {
+        HeaveSongs once = Made.tireless(1, 10);
+        HeaveSongs x = Made.tireless(1, 10);
+        for (HeaveSongs y : new HeaveSongs[] {once, x}) {
+            y.beat(2);
+            y.song();
+        }
+        once.haul(0, 300, 0, 0);
+        for (int call = 4; call < 512; call++) {
+            CHECK.due("haul, call " + call, x.haul(0, 300, 0, 0), 300);
+        }
+        CHECK.due("digest, call 512", x.digest(), once.digest());
     }
 
     /** "A BEAT more of THE ROW (0 .. 3)." */
